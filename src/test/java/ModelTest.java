@@ -4,7 +4,8 @@
  */
 public final class ModelTest {
     private static final int CALLS = 512;
-    private static final int RUNS = 1500;
+    private static final int CALLS_BEFORE_COMPARING = 240;
+    private static final int RUNS = 6000;
 
     private static final Expect expect = new Expect("ModelTest");
 
@@ -60,6 +61,9 @@ public final class ModelTest {
 
     private void same(String call, long got, long want) {
         calls++;
+        if (calls > CALLS) {
+            throw new IllegalStateException("run " + run + " has too many calls");
+        }
         expect.due("run " + run + ", call " + calls + ": " + call, got, want);
     }
 
@@ -69,7 +73,7 @@ public final class ModelTest {
 
     private void goOn() {
         int manner = run % 6;
-        while (calls < CALLS - 110) {
+        while (calls < CALLS_BEFORE_COMPARING) {
             switch (manner == 5 ? below(5) : manner) {
                 case 0:
                     drawAndSplit();
@@ -88,7 +92,7 @@ public final class ModelTest {
                     break;
             }
         }
-        compareShape(0);
+        compareState();
     }
 
     private void drawAndSplit() {
@@ -100,6 +104,7 @@ public final class ModelTest {
         join(below(3), 0, 1, from(1, 3));
         size(about(0, 5), about(0, 5), below(3) == 0 ? about(-8, 8) : from(-1, 1));
         look(below(3));
+        filled();
         if (below(4) == 0) {
             join(below(3), 0, 0, 3);
         }
@@ -141,29 +146,23 @@ public final class ModelTest {
     }
 
     private void layOut() {
-        int c = about(0, 5);
-        if (below(4) == 0) {
+        if (below(12) == 0) {
+            int c = about(0, 5);
             same("clear(" + c + ")", desk.clear(c), model.clear(c));
         }
-        for (int i = below(3); i > 0; i--) {
-            int p = below(3) == 0 ? about(0, 5) : 0;
-            int x = below(4) == 0 ? about(-16, 16) : from(-2, 3);
-            int y = below(4) == 0 ? about(-16, 16) : from(-2, 3);
-            int w = below(6) == 0 ? about(1, 16) : from(1, 3);
-            int h = below(6) == 0 ? about(1, 16) : from(1, 3);
-            same("box(" + p + ", " + x + ", " + y + ", " + w + ", " + h + ")",
-                desk.box(p, x, y, w, h), model.box(p, x, y, w, h));
+        for (int i = from(1, 2); i > 0; i--) {
+            boxOne();
         }
         for (int i = below(3); i > 0; i--) {
             placeOne();
         }
-        for (int i = 0; i < 4; i++) {
+        for (int i = 0; i < 3; i++) {
             int s = about(0, 5);
-            int p = about(0, 5);
-            int x = below(8) == 0 ? about(-32, 32) : from(3, 12);
-            int y = below(8) == 0 ? about(-32, 32) : from(3, 12);
-            same("expand(" + s + ", " + p + ", " + x + ", " + y + ")",
-                desk.expand(s, p, x, y), model.expand(s, p, x, y));
+            int c = about(0, 5);
+            int x = rarely() ? about(-32, 32) : from(5, 10);
+            int y = rarely() ? about(-32, 32) : from(5, 10);
+            same("expand(" + s + ", " + c + ", " + x + ", " + y + ")",
+                desk.expand(s, c, x, y), model.expand(s, c, x, y));
             look(s);
         }
         if (below(3) == 0) {
@@ -171,18 +170,32 @@ public final class ModelTest {
         }
     }
 
+    private boolean rarely() {
+        return below(25) == 0;
+    }
+
+    private void boxOne() {
+        int c = below(3) == 0 ? about(0, 5) : 0;
+        int x = rarely() ? about(-16, 16) : from(-2, 1);
+        int y = rarely() ? about(-16, 16) : from(-2, 1);
+        int w = rarely() ? about(1, 16) : from(1, 2);
+        int h = rarely() ? about(1, 16) : from(1, 2);
+        same("box(" + c + ", " + x + ", " + y + ", " + w + ", " + h + ")",
+            desk.box(c, x, y, w, h), model.box(c, x, y, w, h));
+    }
+
     private void placeOne() {
-        int x = below(4) == 0 ? about(-16, 16) : from(-4, 4);
-        int y = below(4) == 0 ? about(-16, 16) : from(-4, 4);
+        int x = rarely() ? about(-16, 16) : from(-2, 2);
+        int y = rarely() ? about(-16, 16) : from(-2, 2);
         int turn = about(0, 7);
         same("at(" + x + ", " + y + ", " + turn + ")", desk.at(x, y, turn), model.at(x, y, turn));
-        int dx = below(5) == 0 ? about(-16, 16) : from(-3, 3);
-        int dy = below(5) == 0 ? about(-16, 16) : from(-3, 3);
+        int dx = rarely() ? about(-16, 16) : from(-2, 2);
+        int dy = rarely() ? about(-16, 16) : from(-2, 2);
         same("steps(" + dx + ", " + dy + ")", desk.steps(dx, dy), model.steps(dx, dy));
         int c = about(0, 5);
         int d = below(3) == 0 ? about(0, 5) : below(Math.max(1, Math.min(c, 5)));
-        int n = below(2) == 0 ? about(1, 4) : 1;
-        int m = below(2) == 0 ? about(1, 4) : from(1, 2);
+        int n = below(3) == 0 ? about(1, 4) : 1;
+        int m = below(3) == 0 ? about(1, 4) : 1;
         same("place(" + c + ", " + d + ", " + n + ", " + m + ")",
             desk.place(c, d, n, m), model.place(c, d, n, m));
     }
@@ -262,6 +275,13 @@ public final class ModelTest {
             desk.rect(s, x, y, w, h), model.rect(s, x, y, w, h));
     }
 
+    private void filled() {
+        int s = about(0, 5);
+        int x = about(0, 15);
+        int y = about(0, 15);
+        same("filled(" + s + ", " + x + ", " + y + ")", desk.filled(s, x, y), model.filled(s, x, y));
+    }
+
     private void point(int x, int y) {
         same("point(" + x + ", " + y + ")", desk.point(x, y), model.point(x, y));
     }
@@ -303,29 +323,23 @@ public final class ModelTest {
                 same("read(" + t + ")", desk.read(t), model.read(t));
             }
         }
-        compareShape(s);
     }
 
-    /** Looks at what no answer tells, without counting it as calls: it changes nothing. */
-    private void compareShape(int s) {
-        for (int i = 0; i < 256; i++) {
-            if (desk.filled(s, i % 16, i / 16) != model.filled(s, i % 16, i / 16)) {
-                same("filled(" + s + ", " + i % 16 + ", " + i / 16 + ")", 0, 1);
-                return;
-            }
-        }
-        for (int list = 0; list <= 1; list++) {
-            for (int i = 0; i < 260 * 4; i++) {
-                if (desk.item(list, i / 4, i % 4) != model.item(list, i / 4, i % 4)) {
-                    same("item(" + list + ", " + i / 4 + ", " + i % 4 + ")", 0, 1);
-                    return;
-                }
-            }
-        }
-        for (int i = -1; i <= 400; i++) {
-            if (desk.byteAt(i) != model.byteAt(i)) {
-                same("byteAt(" + i + ")", 0, 1);
-                return;
+    /** Spends the calls that are left on one part of the state, by turns. */
+    private void compareState() {
+        int what = run / 6 % 4;
+        int first = below(6);
+        for (int i = 0; calls < CALLS; i++) {
+            if (what == 0) {
+                int s = (first + i / 256) % 6;
+                int x = i % 16;
+                int y = i / 16 % 16;
+                same("filled(" + s + ", " + x + ", " + y + ")", desk.filled(s, x, y), model.filled(s, x, y));
+            } else if (what == 3) {
+                same("byteAt(" + (i - 1) + ")", desk.byteAt(i - 1), model.byteAt(i - 1));
+            } else {
+                same("item(" + (what - 1) + ", " + i / 4 + ", " + i % 4 + ")",
+                    desk.item(what - 1, i / 4, i % 4), model.item(what - 1, i / 4, i % 4));
             }
         }
     }
