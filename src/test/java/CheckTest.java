@@ -69,13 +69,7 @@ public final class CheckTest {
 
     private static void most() {
         MaskDesk desk = new MaskDesk();
-        desk.box(0, 0, 0, 1, 1);
-        desk.box(0, 1, 1, 1, 1);
-        desk.steps(2, 2);
-        desk.place(1, 0, 4, 4);
-        for (int i = 0; i < 4; i++) {
-            desk.expand(0, 1, i % 2 * 8, i / 2 * 8);
-        }
+        Expect.drawCheckerboard(desk, 0);
         expect.due("as many as there can be", desk.check(0, 0, 16), 256);
         expect.due("the last one", desk.item(1, 255, 0), 15);
         expect.due("the last one", desk.item(1, 255, 1), 15);

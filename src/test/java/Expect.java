@@ -44,6 +44,17 @@ final class Expect {
         }
     }
 
+    /** Fills every other cell of shape s, that at 0, 0 among them: 128 of them. */
+    static void drawCheckerboard(MaskDesk desk, int s) {
+        desk.box(0, 0, 0, 1, 1);
+        desk.box(0, 1, 1, 1, 1);
+        desk.steps(2, 2);
+        desk.place(1, 0, 4, 4);
+        for (int i = 0; i < 4; i++) {
+            desk.expand(s, 1, i % 2 * 8, i / 2 * 8);
+        }
+    }
+
     /** Asks for all 256 cells, so a test that calls this often takes care of the 512 calls. */
     void shape(String what, MaskDesk desk, int s, String... rows) {
         for (int y = 0; y < 16; y++) {

@@ -1,3 +1,6 @@
+import java.lang.reflect.Field;
+import java.lang.reflect.Method;
+
 /** Promises 18 to 21: write, put, byteAt, read. */
 public final class FileTest {
     private static final Expect expect = new Expect("FileTest");
@@ -17,6 +20,7 @@ public final class FileTest {
         readReplaces();
         readRefused();
         longFiles();
+        tooLongToWrite();
         expect.finish();
     }
 
@@ -234,18 +238,47 @@ public final class FileTest {
         expect.due("399 bytes", desk.read(0), 79 * 255);
         expect.due("399 bytes", desk.measure(0, 0), 79);
         desk = new MaskDesk();
-        desk.box(0, 0, 0, 1, 1);
-        desk.box(0, 1, 1, 1, 1);
-        desk.steps(2, 2);
-        desk.place(1, 0, 4, 4);
-        for (int i = 0; i < 4; i++) {
-            desk.expand(0, 1, i % 2 * 8, i / 2 * 8);
-        }
+        Expect.drawCheckerboard(desk, 0);
         expect.due("a checkerboard", desk.split(0), 128);
         expect.due("a line for each row", desk.write(), 84);
         expect.due("a line for each row", desk.byteAt(2), 16);
         expect.due("read it back", desk.read(1), 128);
         desk.join(2, 0, 1, 3);
         expect.due("read it back", desk.measure(2, 0), 0);
+    }
+
+    /**
+     * No shape is known whose pieces need more than some 300 bytes, so these are slipped in by hand:
+     * groups of one piece (6 bytes each), of two (8), and of three that are no line (11).
+     */
+    private static MaskDesk withGroups(int ones, int twos, int threes) {
+        MaskDesk desk = new MaskDesk();
+        try {
+            Field field = MaskDesk.class.getDeclaredField("pieces");
+            field.setAccessible(true);
+            Object pieces = field.get(desk);
+            Method append = pieces.getClass().getDeclaredMethod("append", int.class, int.class, int.class, int.class);
+            append.setAccessible(true);
+            for (int i = 0; i < ones + twos + threes; i++) {
+                int members = i < ones ? 1 : i < ones + twos ? 2 : 3;
+                for (int k = 0; k < members; k++) {
+                    append.invoke(pieces, k * k, k, i % 16 + 1, i / 16 + 1);
+                }
+            }
+        } catch (ReflectiveOperationException e) {
+            throw new IllegalStateException("the desk keeps its pieces another way now", e);
+        }
+        return desk;
+    }
+
+    private static void tooLongToWrite() {
+        MaskDesk desk = withGroups(62, 2, 1);
+        expect.due("400 bytes", desk.write(), 400);
+        expect.due("400 bytes", desk.byteAt(-1), 400);
+        expect.due("400 bytes", desk.byteAt(399), 0);
+        desk = withGroups(64, 2, 0);
+        fill(desk, 7, 8, 9);
+        expect.none("401 bytes", desk.write());
+        expect.bytes("refused, the bytes stay", desk, 7, 8, 9);
     }
 }

@@ -146,13 +146,7 @@ public final class MeasureTest {
 
     private static void checkerboard() {
         MaskDesk desk = new MaskDesk();
-        desk.box(0, 0, 0, 1, 1);
-        desk.box(0, 1, 1, 1, 1);
-        desk.steps(2, 2);
-        desk.place(1, 0, 4, 4);
-        for (int i = 0; i < 4; i++) {
-            expect.due("checkerboard", desk.expand(0, 1, i % 2 * 8, i / 2 * 8), 32);
-        }
+        Expect.drawCheckerboard(desk, 0);
         all("checkerboard", desk, 0, 128, 128, 0, 0, 0);
     }
 
