@@ -443,9 +443,29 @@ public final class FileEdgesTest {
                 next("dx", b, fits, side, 2, 1, start, 3, count);
                 next("dy", b, fits, 2, side, 1, 3, start, count, 0);
                 if (fits) {
-                    reads("dx to the end", count, side, 2, 1, start, 3, count, b, 0, 0);
-                    reads("dy to the end", count, 2, side, 1, 3, start, count, 0, b, 0);
+                    MaskDesk desk = new MaskDesk();
+                    fill(desk, side, 2, 1, start, 3, count, b, 0, 0);
+                    expect.due("dx " + step + " to the end", desk.read(0), count);
+                    fill(desk, 2, side, 1, 3, start, count, 0, b, 0);
+                    expect.due("dy " + step + " to the end", desk.read(1), count);
+                    lineLies(desk, side, start, count, step);
                 }
+            }
+        }
+    }
+
+    /** Shape 0 has a line along x, two cells high from y = 3 on, shape 1 the same along y. */
+    private static void lineLies(MaskDesk desk, int side, int start, int count, int step) {
+        boolean[] covered = new boolean[16];
+        for (int i = 0; i < count; i++) {
+            Arrays.fill(covered, start + i * step, start + i * step + side, true);
+        }
+        for (int k = 0; k < 256; k++) {
+            boolean between = k / 16 == 3 || k / 16 == 4;
+            String what = count + " with step " + step + ": cell " + k;
+            expect.due(what, desk.filled(0, k % 16, k / 16), between && covered[k % 16]);
+            if (k < 32) {
+                expect.due(what, desk.filled(1, 3 + k / 16, k % 16), covered[k % 16]);
             }
         }
     }
