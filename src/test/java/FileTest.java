@@ -248,9 +248,15 @@ public final class FileTest {
     }
 
     /**
-     * No shape is known whose pieces need more than some 300 bytes, so these are slipped in by hand:
-     * groups of one piece (6 bytes each), of two (8), and of three that are no line (11).
-     * Null, if the desk does not keep its pieces in this way.
+     * No calls lead to pieces that need more than 351 bytes. There are never fewer rectangles than
+     * pieces, so there are no more pieces than level rows of filled cells; each of these takes one
+     * cell more than its length of the 17 that a row of the plate then has, so pieces and their cells
+     * are at most 16 * 17 = 272 together. A group takes at most 3.5 bytes, and 2.5 for each piece:
+     * most with one piece each of 1 by 2, 2 by 1, 1 by 3 and 3 by 1, and all others 1 by 1.
+     *
+     * So these are slipped in by hand: groups of one piece (6 bytes each), of two (8), and of three
+     * that are no line (11). Null, if the desk does not keep its pieces in this way: how it does is
+     * free.
      */
     private static MaskDesk withGroups(int ones, int twos, int threes) {
         MaskDesk desk = new MaskDesk();
@@ -258,6 +264,9 @@ public final class FileTest {
             Field field = MaskDesk.class.getDeclaredField("pieces");
             field.setAccessible(true);
             Object pieces = field.get(desk);
+            if (pieces == null) {
+                return unlikeThis("there are none at first");
+            }
             Method append = pieces.getClass().getDeclaredMethod("append", int.class, int.class, int.class, int.class);
             append.setAccessible(true);
             for (int i = 0; i < ones + twos + threes; i++) {
@@ -267,10 +276,14 @@ public final class FileTest {
                 }
             }
         } catch (ReflectiveOperationException e) {
-            System.out.println("FileTest: pieces for a file of 401 bytes cannot be slipped in: " + e);
-            return null;
+            return unlikeThis(e.toString());
         }
-        return desk;
+        return desk.item(0, ones + twos + threes - 1, 2) > 0 ? desk : unlikeThis("they are not told");
+    }
+
+    private static MaskDesk unlikeThis(String why) {
+        System.out.println("FileTest: pieces for a file of 401 bytes cannot be slipped in: " + why);
+        return null;
     }
 
     private static void tooLongToWrite() {

@@ -21,6 +21,7 @@ public final class LanguageTest {
 
     public static void main(String[] args) {
         publicFace();
+        constant();
         nothingElse();
         classesInside();
         callsMakeFewObjects();
@@ -74,12 +75,21 @@ public final class LanguageTest {
         }
     }
 
+    private static void constant() {
+        try {
+            Field none = MaskDesk.class.getField("NONE");
+            int modifiers = none.getModifiers();
+            expect.yes("NONE is static and final", Modifier.isStatic(modifiers) && Modifier.isFinal(modifiers));
+            expect.yes("NONE is an int", none.getType() == int.class);
+            expect.due("NONE", MaskDesk.NONE, -1000);
+        } catch (NoSuchFieldException e) {
+            expect.yes("NONE is a public field", false);
+        }
+    }
+
     private static void classesInside() {
-        Class<?>[] inside = MaskDesk.class.getDeclaredClasses();
-        expect.yes("some twelve classes", inside.length + 1 <= 12);
-        for (Class<?> one : inside) {
+        for (Class<?> one : MaskDesk.class.getDeclaredClasses()) {
             int modifiers = one.getModifiers();
-            expect.yes(one.getName() + " is static", Modifier.isStatic(modifiers));
             expect.no(one.getName() + " is public", Modifier.isPublic(modifiers) || Modifier.isProtected(modifiers));
             for (Field field : one.getDeclaredFields()) {
                 if (Modifier.isStatic(field.getModifiers())) {

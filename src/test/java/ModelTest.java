@@ -1,80 +1,35 @@
 /**
- * Long runs of calls, made up from a fixed seed, on a desk and on the model beside it: each answer
- * must be the same. Runs keep to the 512 calls of the document.
+ * Long runs of calls on a desk and on the model beside it: each answer must be the same. Each run
+ * keeps to one manner of work, or to all by turns, and then looks over a part of what there is, up
+ * to the 512th call.
  */
 public final class ModelTest {
-    private static final int CALLS = 512;
-    private static final int CALLS_BEFORE_COMPARING = 240;
+    private static final int CALLS_BEFORE_LOOKING_OVER = 240;
     private static final int RUNS = 6000;
 
     private static final Expect expect = new Expect("ModelTest");
 
-    private long seed = 1;
-    private MaskDesk desk;
-    private Model model;
-    private int run;
-    private int calls;
+    private final int run;
+    private final Dice dice;
+    private final Pair pair;
+
+    private ModelTest(int run) {
+        this.run = run;
+        dice = new Dice(77L + run);
+        pair = new Pair(expect, "run " + run);
+    }
 
     public static void main(String[] args) {
-        ModelTest test = new ModelTest();
         for (int run = 0; run < RUNS; run++) {
-            test.start(run);
-            test.goOn();
+            new ModelTest(run).goOn();
         }
         expect.finish();
     }
 
-    private void start(int number) {
-        run = number;
-        seed = 77L + number;
-        desk = new MaskDesk();
-        model = new Model();
-        calls = 0;
-    }
-
-    /** Knuth's multiplier: the upper bits are good enough here, and the same on every machine. */
-    private int below(int n) {
-        seed = seed * 6364136223846793005L + 1442695040888963407L;
-        return (int) ((seed >>> 33) % n);
-    }
-
-    private int from(int low, int high) {
-        return low + below(high - low + 1);
-    }
-
-    /** Mostly within the bounds, now and then at them, beside them or far away. */
-    private int about(int low, int high) {
-        switch (below(60)) {
-            case 0:
-                return low - 1;
-            case 1:
-                return high + 1;
-            case 2:
-                return below(2) == 0 ? low : high;
-            case 3:
-                int[] far = {Integer.MIN_VALUE, Integer.MAX_VALUE, -1000, 1 << 16};
-                return below(8) == 0 ? far[below(4)] : from(low, high);
-            default:
-                return from(low, high);
-        }
-    }
-
-    private void same(String call, long got, long want) {
-        calls++;
-        if (calls > CALLS) {
-            throw new IllegalStateException("run " + run + " has too many calls");
-        }
-        expect.due("run " + run + ", call " + calls + ": " + call, got, want);
-    }
-
-    private void same(String call, boolean got, boolean want) {
-        same(call, got ? 1 : 0, want ? 1 : 0);
-    }
-
     private void goOn() {
         int manner = run % 6;
-        while (calls < CALLS_BEFORE_COMPARING) {
-            switch (manner == 5 ? below(5) : manner) {
+        while (pair.calls() < CALLS_BEFORE_LOOKING_OVER) {
+            switch (manner == 5 ? dice.below(5) : manner) {
                 case 0:
                     drawAndSplit();
                     break;
@@ -92,124 +47,114 @@ public final class ModelTest {
                     break;
             }
         }
-        compareState();
+        lookOver();
     }
 
     private void drawAndSplit() {
-        for (int i = below(7); i >= 0; i--) {
-            rect(below(2), from(0, 15), from(0, 15), from(1, 9), from(1, 9));
+        for (int i = dice.below(7); i >= 0; i--) {
+            pair.rect(dice.below(2), dice.from(0, 15), dice.from(0, 15), dice.from(1, 9), dice.from(1, 9));
         }
-        rect(about(0, 5), about(0, 15), about(0, 15), about(1, 8), about(1, 8));
-        join(about(0, 5), about(0, 5), about(0, 5), about(0, 3));
-        join(below(3), 0, 1, from(1, 3));
-        size(about(0, 5), about(0, 5), below(3) == 0 ? about(-8, 8) : from(-1, 1));
-        look(below(3));
-        filled();
-        if (below(4) == 0) {
-            join(below(3), 0, 0, 3);
+        pair.rect(dice.about(0, 5), dice.about(0, 15), dice.about(0, 15), dice.about(1, 8), dice.about(1, 8));
+        pair.join(dice.about(0, 5), dice.about(0, 5), dice.about(0, 5), dice.about(0, 3));
+        pair.join(dice.below(3), 0, 1, dice.from(1, 3));
+        pair.size(dice.about(0, 5), dice.about(0, 5), dice.oneIn(3) ? dice.about(-8, 8) : dice.from(-1, 1));
+        look(dice.below(3));
+        pair.filled(dice.about(0, 5), dice.about(0, 15), dice.about(0, 15));
+        if (dice.oneIn(4)) {
+            pair.join(dice.below(3), 0, 0, 3);
         }
     }
 
     private void drawRing() {
-        boolean level = below(2) == 0;
-        int x = about(0, 16);
-        int y = about(0, 16);
+        boolean level = dice.oneIn(2);
+        int x = dice.about(0, 16);
+        int y = dice.about(0, 16);
         int startX = x;
         int startY = y;
-        int n = 2 * from(1, 12) + (below(12) == 0 ? 1 : 0);
+        int n = 2 * dice.from(1, 12) + (dice.oneIn(12) ? 1 : 0);
         for (int i = 0; i < n; i++) {
-            if (below(150) == 0) {
+            if (dice.oneIn(150)) {
                 level = !level;
             }
-            boolean beforeLast = i == n - 1;
-            int toX = beforeLast ? startX : about(0, 16);
-            int toY = beforeLast ? startY : about(0, 16);
-            point(x, y);
+            // The last but one goes to the first one's x or y, so that the last closes the ring.
+            boolean back = i == n - 2 || i == n - 1;
+            int toX = dice.about(0, 16);
+            int toY = dice.about(0, 16);
+            pair.point(x, y);
             if (level) {
-                x = i == n - 2 && !beforeLast ? startX : toX;
+                x = back ? startX : toX;
             } else {
-                y = i == n - 2 && !beforeLast ? startY : toY;
+                y = back ? startY : toY;
             }
             level = !level;
         }
-        if (below(30) == 0) {
+        if (dice.oneIn(30)) {
             for (int i = 0; i < 26; i++) {
-                point(i % 4 / 2 * 5, (i + 1) % 4 / 2 * 5);
+                pair.point(i % 4 / 2 * 5, (i + 1) % 4 / 2 * 5);
             }
         }
-        int s = about(0, 5);
-        same("ring(" + s + ")", desk.ring(s), model.ring(s));
+        int s = dice.about(0, 5);
+        pair.ring(s);
         look(s);
-        if (below(2) == 0) {
-            join(s, s, s, 3);
+        if (dice.oneIn(2)) {
+            pair.join(s, s, s, 3);
         }
     }
 
     private void layOut() {
-        if (below(12) == 0) {
-            int c = about(0, 5);
-            same("clear(" + c + ")", desk.clear(c), model.clear(c));
+        if (dice.oneIn(12)) {
+            pair.clear(dice.about(0, 5));
         }
-        for (int i = from(1, 2); i > 0; i--) {
+        for (int i = dice.from(1, 2); i > 0; i--) {
             boxOne();
         }
-        for (int i = below(3); i > 0; i--) {
+        for (int i = dice.below(3); i > 0; i--) {
             placeOne();
         }
         for (int i = 0; i < 3; i++) {
-            int s = about(0, 5);
-            int c = about(0, 5);
-            int x = rarely() ? about(-32, 32) : from(5, 10);
-            int y = rarely() ? about(-32, 32) : from(5, 10);
-            same("expand(" + s + ", " + c + ", " + x + ", " + y + ")",
-                desk.expand(s, c, x, y), model.expand(s, c, x, y));
+            int s = dice.about(0, 5);
+            pair.expand(s, dice.about(0, 5), mostly(5, 10, 32), mostly(5, 10, 32));
             look(s);
         }
-        if (below(3) == 0) {
-            join(below(6), 5, 5, 3);
+        if (dice.oneIn(3)) {
+            pair.join(dice.below(6), 5, 5, 3);
         }
     }
 
-    private boolean rarely() {
-        return below(25) == 0;
+    /** Within these bounds, but now and then as far off as may be. */
+    private int mostly(int low, int high, int most) {
+        return dice.oneIn(25) ? dice.about(-most, most) : dice.from(low, high);
+    }
+
+    private int side() {
+        return dice.oneIn(25) ? dice.about(1, 16) : dice.from(1, 2);
     }
 
     private void boxOne() {
-        int c = below(3) == 0 ? about(0, 5) : 0;
-        int x = rarely() ? about(-16, 16) : from(-2, 1);
-        int y = rarely() ? about(-16, 16) : from(-2, 1);
-        int w = rarely() ? about(1, 16) : from(1, 2);
-        int h = rarely() ? about(1, 16) : from(1, 2);
-        same("box(" + c + ", " + x + ", " + y + ", " + w + ", " + h + ")",
-            desk.box(c, x, y, w, h), model.box(c, x, y, w, h));
+        int c = dice.oneIn(3) ? dice.about(0, 5) : 0;
+        pair.box(c, mostly(-2, 1, 16), mostly(-2, 1, 16), side(), side());
     }
 
     private void placeOne() {
-        int x = rarely() ? about(-16, 16) : from(-2, 2);
-        int y = rarely() ? about(-16, 16) : from(-2, 2);
-        int turn = about(0, 7);
-        same("at(" + x + ", " + y + ", " + turn + ")", desk.at(x, y, turn), model.at(x, y, turn));
-        int dx = rarely() ? about(-16, 16) : from(-2, 2);
-        int dy = rarely() ? about(-16, 16) : from(-2, 2);
-        same("steps(" + dx + ", " + dy + ")", desk.steps(dx, dy), model.steps(dx, dy));
-        int c = about(0, 5);
-        int d = below(3) == 0 ? about(0, 5) : below(Math.max(1, Math.min(c, 5)));
-        int n = below(3) == 0 ? about(1, 4) : 1;
-        int m = below(3) == 0 ? about(1, 4) : 1;
-        same("place(" + c + ", " + d + ", " + n + ", " + m + ")",
-            desk.place(c, d, n, m), model.place(c, d, n, m));
+        pair.at(mostly(-2, 2, 16), mostly(-2, 2, 16), dice.about(0, 7));
+        pair.steps(mostly(-2, 2, 16), mostly(-2, 2, 16));
+        int c = dice.about(0, 5);
+        int d = dice.oneIn(3) ? dice.about(0, 5) : dice.below(Math.max(1, Math.min(c, 5)));
+        int n = dice.oneIn(3) ? dice.about(1, 4) : 1;
+        int m = dice.oneIn(3) ? dice.about(1, 4) : 1;
+        pair.place(c, d, n, m);
     }
 
     /** A file that is right, but for a byte here and there. */
     private void makeFile() {
-        if (below(6) == 0) {
+        if (dice.oneIn(6)) {
             fillUp();
         }
-        int spoil = below(2) == 0 ? 1000 : from(8, 30);
-        for (int groups = below(3); groups > 0; groups--) {
-            int w = from(1, 6);
-            int h = from(1, 6);
-            int lines = from(1, 3);
+        int spoil = dice.oneIn(2) ? 1000 : dice.from(8, 30);
+        for (int groups = dice.below(3); groups > 0; groups--) {
+            int w = dice.from(1, 6);
+            int h = dice.from(1, 6);
+            int lines = dice.from(1, 3);
             put(w, spoil);
             put(h, spoil);
             put(lines, spoil);
@@ -217,20 +162,19 @@ public final class ModelTest {
                 putLine(w, h, spoil);
             }
         }
-        if (below(5) != 0) {
+        if (!dice.oneIn(5)) {
             put(0, spoil);
         }
-        int i = about(-1, 12);
-        same("byteAt(" + i + ")", desk.byteAt(i), model.byteAt(i));
-        int s = about(0, 5);
-        same("read(" + s + ")", desk.read(s), model.read(s));
+        pair.byteAt(dice.about(-1, 12));
+        int s = dice.about(0, 5);
+        pair.read(s);
         look(s);
     }
 
     private void putLine(int w, int h, int spoil) {
-        int x = from(0, 16 - w);
-        int y = from(0, 16 - h);
-        int count = below(3) == 0 ? 1 : below(5) == 0 ? from(1, 255) : from(2, 4);
+        int x = dice.from(0, 16 - w);
+        int y = dice.from(0, 16 - h);
+        int count = dice.oneIn(3) ? 1 : dice.oneIn(5) ? dice.from(1, 255) : dice.from(2, 4);
         put(x, spoil);
         put(y, spoil);
         put(count, spoil);
@@ -244,102 +188,63 @@ public final class ModelTest {
     private int step(int first, int length, int count) {
         int most = (16 - length - first) / (count - 1);
         int least = -(first / (count - 1));
-        return from(least, most + (below(12) == 0 ? 1 : 0)) & 255;
+        return dice.from(least, most + (dice.oneIn(12) ? 1 : 0)) & 255;
+    }
+
+    private void put(int b, int spoil) {
+        pair.put(dice.oneIn(spoil) ? dice.about(0, 255) : b);
     }
 
     private void fillUp() {
-        if (calls > 60) {
+        if (pair.calls() > 60) {
             return;
         }
         for (int i = 0; i < 300; i++) {
-            put(i < 3 ? 1 : i % 3 == 2 ? 1 : below(16), 2000);
+            pair.put(i < 3 || i % 3 == 2 ? 1 : dice.below(16));
         }
     }
 
     /** Single cells: many corners, islands and holes, sometimes more chords than can be chosen. */
     private void speckle() {
-        int s = below(2);
-        for (int i = below(25); i > 0; i--) {
-            rect(s, below(16), below(16), 1, below(4) == 0 ? 2 : 1);
+        int s = dice.below(2);
+        for (int i = dice.below(25); i > 0; i--) {
+            pair.rect(s, dice.below(16), dice.below(16), 1, dice.oneIn(4) ? 2 : 1);
         }
-        if (below(3) == 0) {
-            rect(2, 0, 0, 16, 16);
-            join(2, 2, s, 2);
+        if (dice.oneIn(3)) {
+            pair.rect(2, 0, 0, 16, 16);
+            pair.join(2, 2, s, 2);
             look(2);
         }
         look(s);
     }
 
-    private void rect(int s, int x, int y, int w, int h) {
-        same("rect(" + s + ", " + x + ", " + y + ", " + w + ", " + h + ")",
-            desk.rect(s, x, y, w, h), model.rect(s, x, y, w, h));
-    }
-
-    private void filled() {
-        int s = about(0, 5);
-        int x = about(0, 15);
-        int y = about(0, 15);
-        same("filled(" + s + ", " + x + ", " + y + ")", desk.filled(s, x, y), model.filled(s, x, y));
-    }
-
-    private void point(int x, int y) {
-        same("point(" + x + ", " + y + ")", desk.point(x, y), model.point(x, y));
-    }
-
-    private void join(int t, int a, int b, int kind) {
-        same("join(" + t + ", " + a + ", " + b + ", " + kind + ")",
-            desk.join(t, a, b, kind), model.join(t, a, b, kind));
-    }
-
-    private void size(int t, int a, int r) {
-        same("size(" + t + ", " + a + ", " + r + ")", desk.size(t, a, r), model.size(t, a, r));
-    }
-
-    private void put(int b, int spoil) {
-        int value = below(spoil) == 0 ? about(0, 255) : b;
-        same("put(" + value + ")", desk.put(value), model.put(value));
-    }
-
     private void look(int s) {
-        int what = about(0, 4);
-        same("measure(" + s + ", " + what + ")", desk.measure(s, what), model.measure(s, what));
-        int kind = about(0, 1);
-        int w = about(1, 16);
-        same("check(" + s + ", " + kind + ", " + w + ")", desk.check(s, kind, w), model.check(s, kind, w));
-        same("split(" + s + ")", desk.split(s), model.split(s));
+        pair.measure(s, dice.about(0, 4));
+        pair.check(s, dice.about(0, 1), dice.about(1, 16));
+        pair.split(s);
         for (int i = 0; i < 3; i++) {
-            int list = about(0, 1);
-            int which = about(0, 12);
-            int field = about(0, 3);
-            same("item(" + list + ", " + which + ", " + field + ")",
-                desk.item(list, which, field), model.item(list, which, field));
+            pair.item(dice.about(0, 1), dice.about(0, 12), dice.about(0, 3));
         }
-        if (below(3) == 0) {
-            same("write()", desk.write(), model.write());
-            int i = about(-1, 30);
-            same("byteAt(" + i + ")", desk.byteAt(i), model.byteAt(i));
-            if (below(2) == 0) {
-                int t = about(0, 5);
-                same("read(" + t + ")", desk.read(t), model.read(t));
+        if (dice.oneIn(3)) {
+            pair.write();
+            pair.byteAt(dice.about(-1, 30));
+            if (dice.oneIn(2)) {
+                pair.read(dice.about(0, 5));
             }
         }
     }
 
-    /** Spends the calls that are left on one part of the state, by turns. */
-    private void compareState() {
+    /** Spends the calls that are left on one part of what there is, by turns. */
+    private void lookOver() {
         int what = run / 6 % 4;
-        int first = below(6);
-        for (int i = 0; calls < CALLS; i++) {
+        int first = dice.below(6);
+        for (int i = 0; pair.callsLeft() > 0; i++) {
             if (what == 0) {
-                int s = (first + i / 256) % 6;
-                int x = i % 16;
-                int y = i / 16 % 16;
-                same("filled(" + s + ", " + x + ", " + y + ")", desk.filled(s, x, y), model.filled(s, x, y));
+                pair.filled((first + i / 256) % 6, i % 16, i / 16 % 16);
             } else if (what == 3) {
-                same("byteAt(" + (i - 1) + ")", desk.byteAt(i - 1), model.byteAt(i - 1));
+                pair.byteAt(i - 1);
             } else {
-                same("item(" + (what - 1) + ", " + i / 4 + ", " + i % 4 + ")",
-                    desk.item(what - 1, i / 4, i % 4), model.item(what - 1, i / 4, i % 4));
+                pair.item(what - 1, i / 4, i % 4);
             }
         }
     }
