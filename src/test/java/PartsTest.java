@@ -81,25 +81,17 @@ public final class PartsTest {
     private static void turnsOfTurns() {
         for (int inner = 0; inner < 8; inner++) {
             for (int outer = 0; outer < 8; outer++) {
-                MaskDesk desk = withLetter();
-                Model model = new Model();
-                model.box(0, 0, 0, 1, 3);
-                model.box(0, 1, 0, 1, 1);
-                desk.at(1, 2, inner);
-                model.at(1, 2, inner);
-                desk.steps(2, -3);
-                model.steps(2, -3);
-                desk.place(1, 0, 2, 1);
-                model.place(1, 0, 2, 1);
-                desk.at(-1, 1, outer);
-                model.at(-1, 1, outer);
-                desk.place(2, 1, 1, 2);
-                model.place(2, 1, 1, 2);
-                String what = "turn " + inner + " in turn " + outer;
-                expect.due(what, desk.expand(0, 2, 8, 8), 8);
-                model.expand(0, 2, 8, 8);
+                Pair pair = new Pair(expect, "turn " + inner + " in turn " + outer);
+                pair.box(0, 0, 0, 1, 3);
+                pair.box(0, 1, 0, 1, 1);
+                pair.at(1, 2, inner);
+                pair.steps(2, -3);
+                pair.place(1, 0, 2, 1);
+                pair.at(-1, 1, outer);
+                pair.place(2, 1, 1, 2);
+                expect.due("they lie on the plate", pair.expand(0, 2, 8, 8), 8);
                 for (int i = 0; i < 256; i++) {
-                    expect.due(what, desk.filled(0, i % 16, i / 16), model.filled(0, i % 16, i / 16));
+                    pair.filled(0, i % 16, i / 16);
                 }
             }
         }
